@@ -210,7 +210,7 @@ public final class BitCongruences {
         }
         switch (what) {
             case 0: return routine.reachedLines();
-            case 1: return routine.givenUp;
+            case 1: return routine.givenUpLines();
             case 2: return routine.constants();
             default: return routine.widened;
         }
@@ -591,18 +591,33 @@ public final class BitCongruences {
             }
         }
 
-        /** What comes goes to 'to', which is neither a nor b. Whether it is GIVEN UP. */
-        boolean work(int op, Fact a, Fact b, Fact to) {
+        /** Of facts that are not NONE. */
+        static boolean givesUp(int op, Fact a, Fact b) {
+            switch (op) {
+                case LEFT:
+                case RIGHT:
+                case RIGHT_ZEROS: return 1 << Long.bitCount(~b.known & 63) > MOST_COUNTS;
+                case DIVIDE:
+                case REMAINDER: return !b.isConstant() || b.low <= 0 && !a.isConstant();
+                case MIX: return !a.isConstant() || !b.isConstant();
+                default: return false;
+            }
+        }
+
+        /** What comes goes to 'to', which is neither a nor b. */
+        void work(int op, Fact a, Fact b, Fact to) {
             if (a.none || op < NEGATE && b.none) {
                 to.makeNone();
-                return false;
+                return;
             }
             if (a.isConstant() && (op >= NEGATE || b.isConstant())) {
                 constant(op, a.low, b.low, to);
-                return false;
+                return;
             }
             to.makeAll();
-            boolean givenUp = false;
+            if (givesUp(op, a, b)) {
+                return;
+            }
             switch (op) {
                 case ADD: plus(a, b, to); break;
                 case SUBTRACT: minus(a, b, to); break;
@@ -612,16 +627,14 @@ public final class BitCongruences {
                 case XOR: bitwise(op, a, b, to); break;
                 case LEFT:
                 case RIGHT:
-                case RIGHT_ZEROS: givenUp = shifted(op, a, b, to); break;
-                case DIVIDE: givenUp = quotient(a, b, to); break;
-                case REMAINDER: givenUp = remainder(a, b, to); break;
-                case MIX: givenUp = true; break;
+                case RIGHT_ZEROS: shifted(op, a, b, to); break;
+                case DIVIDE: quotient(a, b.low, to); break;
+                case REMAINDER: remainder(a, b.low, to); break;
                 case NEGATE: minus(zero, a, to); break;
                 case TURN: turned(a, to); break;
                 default: narrowed(op, a, to); break;
             }
             to.sharpen();
-            return givenUp;
         }
 
         private static void constant(int op, long a, long b, Fact to) {
@@ -718,12 +731,9 @@ public final class BitCongruences {
             to.values = ones;
         }
 
-        private boolean shifted(int op, Fact a, Fact b, Fact to) {
+        private void shifted(int op, Fact a, Fact b, Fact to) {
             long known = b.known & 63;
             long values = b.values & 63;
-            if (1 << Long.bitCount(63 & ~known) > MOST_COUNTS) {
-                return true;
-            }
             to.makeNone();
             for (int count = 0; count < WORD; count++) {
                 if ((count & known) == values) {
@@ -731,7 +741,6 @@ public final class BitCongruences {
                     to.becomeJoin(to, moved);
                 }
             }
-            return false;
         }
 
         private void move(int op, Fact a, int count) {
@@ -776,23 +785,18 @@ public final class BitCongruences {
             moved.values = a.values >>> count;
         }
 
-        private static boolean quotient(Fact a, Fact b, Fact to) {
-            if (!b.isConstant() || b.low <= 0) {
-                return true;
+        private static void quotient(Fact a, long by, Fact to) {
+            if (by > 0) {
+                to.low = a.low / by;
+                to.high = a.high / by;
             }
-            to.low = a.low / b.low;
-            to.high = a.high / b.low;
-            return false;
         }
 
-        private static boolean remainder(Fact a, Fact b, Fact to) {
-            if (!b.isConstant() || b.low <= 0) {
-                return true;
-            }
-            long by = b.low;
+        /** 'by' is above 0. */
+        private static void remainder(Fact a, long by, Fact to) {
             if (-by < a.low && a.high < by) {
                 to.copy(a);
-                return false;
+                return;
             }
             long m = oddPart(commonDivisor(a.modulus, by));
             to.limit(a.low >= 0 ? 0 : Math.max(a.low, 1 - by), a.high <= 0 ? 0 : Math.min(a.high, by - 1),
@@ -802,7 +806,6 @@ public final class BitCongruences {
                 to.known = a.known | ~mask;
                 to.values = a.values & mask;
             }
-            return false;
         }
 
         private static void turned(Fact a, Fact to) {
@@ -856,7 +859,6 @@ public final class BitCongruences {
         final Fact[] ahead = new Fact[LINES * PLACES];
         final boolean[] reached = new boolean[LINES];
         boolean isFound = false;
-        int givenUp = 0;
         int widened = 0;
 
         Routine() {
@@ -889,6 +891,18 @@ public final class BitCongruences {
             int lines = 0;
             for (int line = 0; line < count; line++) {
                 lines += reached[line] ? 1 : 0;
+            }
+            return lines;
+        }
+
+        int givenUpLines() {
+            int lines = 0;
+            for (int line = 0; line < count; line++) {
+                if (reached[line] && ops[line] < NEGATE) {
+                    Fact a = ahead[line * PLACES + firsts[line]];
+                    Fact b = ahead[line * PLACES + seconds[line]];
+                    lines += Acts.givesUp(ops[line], a, b) ? 1 : 0;
+                }
             }
             return lines;
         }
@@ -946,7 +960,6 @@ public final class BitCongruences {
             if (someWait()) {
                 reachAll(routine);
             }
-            routine.givenUp = givenUpLines(routine);
             routine.isFound = true;
         }
 
@@ -957,19 +970,6 @@ public final class BitCongruences {
             for (int at = 0; at < routine.count * PLACES; at++) {
                 routine.ahead[at].makeAll();
             }
-        }
-
-        private int givenUpLines(Routine routine) {
-            int lines = 0;
-            for (int line = 0; line < routine.count; line++) {
-                int op = routine.ops[line];
-                if (routine.reached[line] && op < NEGATE) {
-                    Fact a = routine.ahead[line * PLACES + routine.firsts[line]];
-                    Fact b = routine.ahead[line * PLACES + routine.seconds[line]];
-                    lines += acts.work(op, a, b, scratch) ? 1 : 0;
-                }
-            }
-            return lines;
         }
 
         void workLine(Routine routine, Tables tables, int line) {

@@ -137,6 +137,57 @@ public final class RandomRunsTest {
         }
     }
 
+    private static void add(int run, BitCongruences x, NaiveModel y, int op, int a, int b) {
+        due(run, "op(0, " + op + ", " + a + ", " + b + ")", x.op(0, op, a, b), y.op(0, op, a, b));
+    }
+
+    private static int constant() { return below(3) == 0 ? below(7) - 3 : below(2) == 0 ? (int) number() : below(200); }
+
+    /** Constants, given facts, and a body that is gone through again and again: this is where facts widen. */
+    private static void loopRun(int run) {
+        BitCongruences x = new BitCongruences();
+        NaiveModel y = new NaiveModel();
+        due(run, "method()", x.method(), y.method());
+        for (int i = below(8); i > 0; i--) {
+            long v = below(9);
+            due(run, "table(0, " + v + ")", x.table(0, v), y.table(0, v));
+        }
+        for (int p = 0; p < 8; p++) {
+            if (below(3) == 0) {
+                for (int i = 1 + below(3); i > 0; i--) factCall(run, x, y, below(3));
+                int f = below(16);
+                due(run, "given(0, " + p + ", " + f + ")", x.given(0, p, f), y.given(0, p, f));
+            } else {
+                add(run, x, y, 20, p, constant());
+            }
+        }
+        int top = y.programs.get(0).lines.size();
+        for (int i = 2 + below(14); i > 0; i--) {
+            int kind = below(10);
+            if (kind < 5) add(run, x, y, new int[] {0, 0, 0, 1, 1, 2, 3, 4, 5, 6, 7, 8, 9, 10, 10}[below(15)], below(8), below(8));
+            else if (kind == 5) add(run, x, y, new int[] {12, 13, 14, 15, 16, 17, 18, 19, 21, 21, 22}[below(11)], below(8), 0);
+            else if (kind == 6) add(run, x, y, 25, below(8), below(6));
+            else if (kind == 7) add(run, x, y, 26, 0, top + below(12));
+            else add(run, x, y, 23 + below(2), below(8), below(8));
+        }
+        add(run, x, y, 26, 0, top);
+        findings(run, x, y, 0);
+        for (int line = 0; line < y.programs.get(0).lines.size(); line++) {
+            for (int p = 0; p < 8; p++) {
+                due(run, "found(0, " + line + ", " + p + ", 0)", x.found(0, line, p, 0), y.found(0, line, p, 0));
+                tell(run, x, y, 0);
+            }
+        }
+        for (int p = 0; p < 8; p++) {
+            long v = number();
+            for (int tries = 0; tries < 50 && !y.programs.get(0).given[p].holds(v); tries++) v = number();
+            if (!y.programs.get(0).given[p].holds(v)) v = y.programs.get(0).given[p].low.longValue();
+            due(run, "put(" + p + ", " + v + ")", x.put(p, v), y.put(p, v));
+        }
+        walks(run, x, y, 0);
+        walks(run, x, y, 0);
+    }
+
     private static void factRun(int run) {
         BitCongruences x = new BitCongruences();
         NaiveModel y = new NaiveModel();
@@ -149,6 +200,7 @@ public final class RandomRunsTest {
         state = args.length > 2 ? Long.parseLong(args[2]) : 1;
         for (int run = 0; run < factRuns; run++) factRun(run);
         for (int run = 0; run < methodRuns; run++) methodRun(factRuns + run);
+        for (int run = 0; run < methodRuns; run++) loopRun(factRuns + methodRuns + run);
         System.out.println(calls + " answers compared, " + wrong + " are not as due");
         if (wrong != 0) System.exit(1);
     }
