@@ -1123,16 +1123,19 @@ public final class BitCongruences {
             if (line < 0 || line >= routine.count || someComeToNone()) {
                 return;
             }
-            boolean known = routine.reached[line];
-            routine.reached[line] = true;
-            waiting[line] |= !known;
+            boolean isNew = !routine.reached[line];
+            boolean changed = isNew;
             for (int p = 0; p < PLACES; p++) {
                 int at = line * PLACES + p;
-                if (known) {
-                    waiting[line] |= merge(routine, at, coming[p]);
-                } else {
+                if (isNew) {
                     routine.ahead[at].copy(coming[p]);
+                } else if (merge(routine, at, coming[p])) {
+                    changed = true;
                 }
+            }
+            routine.reached[line] = true;
+            if (changed) {
+                waiting[line] = true;
             }
         }
 

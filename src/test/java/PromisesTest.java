@@ -267,6 +267,53 @@ public final class PromisesTest {
         x.fact(6, 4, 4);
         act(2, 5, 6, 1);
         fact(9, MIN, MAX - 3, 3, 0, 1, 0);
+        x.fact(6, 2147483647, 2147483647);
+        x.fact(5, -3, 2);
+        act(2, 5, 6, 1);
+        ends(9, -3 * 2147483647L, 2 * 2147483647L, 2147483647, 0);
+        x.fact(6, 2147483649L, 2147483649L);
+        act(2, 5, 6, 1);
+        ends(9, -3 * 2147483649L, 2 * 2147483649L, 1, 0);
+        // just one of the four products is no long
+        long far = 1L << 62;
+        for (int i = 0; i < 4; i++) {
+            x.fact(5, i < 2 ? -far : -1, i < 2 ? 1 : far);
+            x.fact(6, i % 2 == 0 ? -3 : -1, i % 2 == 0 ? 1 : 3);
+            act(2, 5, 6, 1);
+            all(9);
+        }
+        x.fact(5, -far, far);
+        x.fact(6, -1, 1);
+        act(2, 5, 6, 1);
+        ends(9, -far, far, 1, 0);
+        x.fact(5, MIN, 1);
+        act(2, 5, 6, 1);
+        all(9);
+        act(2, 6, 5, 1);
+        all(9);
+        // just one end of a sum, of a difference is no long
+        x.fact(5, -far, far);
+        x.fact(6, 0, far);
+        act(0, 5, 6, 1);
+        all(9);
+        x.fact(6, -far - 1, 0);
+        act(0, 5, 6, 1);
+        all(9);
+        act(1, 5, 6, 1);
+        all(9);
+        x.fact(6, 0, far + 1);
+        act(1, 5, 6, 1);
+        all(9);
+        x.fact(6, -far, far - 1);
+        act(0, 5, 6, 1);
+        ends(9, MIN, MAX, 1, 0);
+        // bits: x??1 and 0??1 together: the lowest is 0, its carry is known
+        x.fact(5, 0, 15);
+        x.bits(5, 1, 1);
+        x.fact(6, 16, 16 + 7);
+        x.bits(6, 1, 1);
+        act(0, 5, 6, 1);
+        fact(9, 18, 38, ~62L, 0, 1, 0);
         // 1 by 3 times 2 by 5: M is the GCD of 15, 6 and 5; 0 by 3 times 0 by 5: of 15, 0 and 0
         x.fact(5, 0, 100);
         x.rest(5, 3, 1);
@@ -307,6 +354,19 @@ public final class PromisesTest {
         ends(9, 0, 100, 1, 0);
         act(3, 2, 2, 1);
         all(9);
+        x.fact(3, 1, 1);
+        act(8, 0, 3, 1);
+        fact(9, 0, 50, ~63L, 0, 1, 0);
+        act(7, 0, 3, 1);
+        fact(9, 0, 50, ~63L, 0, 1, 0);
+        x.fact(3, -1, -1);
+        x.fact(4, 67, 67);
+        act(6, 3, 4, 1);
+        constant(9, -8);
+        act(7, 3, 4, 1);
+        constant(9, -1);
+        act(8, 3, 4, 1);
+        constant(9, -1L >>> 3);
         x.fact(3, 0, 10);
         x.rest(3, 5, 1);
         x.fact(4, 3, 3);
@@ -374,7 +434,20 @@ public final class PromisesTest {
         x.rest(2, 15, 7);
         act(10, 2, 1, 1);
         ends(9, 2, 7, 5, 2);
+        x.fact(2, -10, 9);
+        act(10, 2, 1, 1);
+        ends(9, -9, 9, 1, 0);
+        x.fact(2, -9, 10);
+        act(10, 2, 1, 1);
+        ends(9, -9, 9, 1, 0);
         x.fact(3, 8, 8);
+        x.fact(2, 0, 99);
+        act(10, 2, 3, 1);
+        fact(9, 0, 7, ~7L, 0, 1, 0);
+        x.fact(2, -1, 99);
+        x.bits(2, 1, 1);
+        act(10, 2, 3, 1);
+        fact(9, -1, 7, 0, 0, 1, 0);
         x.fact(2, 0, 99);
         x.bits(2, 3, 2);
         act(10, 2, 3, 1);
@@ -417,6 +490,26 @@ public final class PromisesTest {
         fact(9, 1, 249, ~0xF8L, 1, 1, 0);
         act(15, 8, 0, 1);
         ends(9, 201, 297, 1, 0);
+        x.fact(8, -32768, 32767);
+        x.rest(8, 65535, 0);
+        act(15, 8, 0, 1);
+        constant(9, 0);
+        for (int op = 14; op < 20; op++) {
+            int width = op % 3 == 2 ? 8 : op % 3 == 0 ? 16 : 32;
+            long least = op < 17 ? -1L << width - 1 : 0, most = least + (1L << width) - 1;
+            x.fact(8, least, most);
+            x.rest(8, 3, least);
+            act(op, 8, 0, 1);
+            due("M stays where it fits", x.told(9, 4), 3);
+            x.fact(8, least - 3, most);
+            x.rest(8, 3, least);
+            act(op, 8, 0, 1);
+            ends(9, least, most, 1, 0);
+            x.fact(8, least, most + 3);
+            x.rest(8, 3, least);
+            act(op, 8, 0, 1);
+            ends(9, least, most, 1, 0);
+        }
         x.fact(8, 0xFF80, 0xFF81);
         act(14, 8, 0, 1);
         fact(9, -128, -127, ~1L, -128, 1, 0);
@@ -677,6 +770,8 @@ public final class PromisesTest {
         due("find(0)", x.find(0), BAD);
         due("find(-1)", x.find(-1), BAD);
         x.method();
+        due("sum(0, 0)", x.sum(0, 0), STATE);
+        due("walk(0, 0)", x.walk(0, 0), STATE);
         due("find(0) without LINES", x.find(0), 0);
         due("sum(0, 0)", x.sum(0, 0), 0);
         begin("12 find: GO, END, behind the last");
@@ -710,6 +805,22 @@ public final class PromisesTest {
         give(0, 4, 9);
         x.find(0);
         notReached(1);
+        begin("12 find: a JOIN sharpens once more, what goes anew does not");
+        lines(new int[] {25, 1, 0}, new int[] {21, 2, 2}, new int[] {23, 3, 4}, new int[] {27, 0, 0}, new int[] {27, 0, 0});
+        x.fact(0, 17, 10000);
+        x.bits(0, 15, 0);
+        x.rest(0, 15, 1);
+        x.given(0, 0, 0);
+        x.given(0, 3, 0);
+        give(4, 5000, 5000);
+        due("find(0)", x.find(0), 1);
+        foundEnds(1, 0, 121, 9916);
+        foundEnds(2, 0, 211, 9856);
+        foundEnds(2, 3, 211, 9856);
+        foundEnds(3, 0, 211, 9856);
+        // not SAME as a CONSTANT: sharpened, though neither end is that
+        foundEnds(3, 3, 256, 9856);
+        notReached(4);
         begin("12 find: one PLACE by another");
         lines(new int[] {12, 1, 0}, new int[] {1, 1, 0}, new int[] {21, 2, 1}, new int[] {20, 3, -6}, new int[] {27, 0, 0});
         give(0, 2, 4);
@@ -740,6 +851,12 @@ public final class PromisesTest {
         due("sum(0, 3)", x.sum(0, 3), 30 - 3 + 29 - 3);
         due("find(0) again", x.find(0), 30);
         due("sum(0, 3) again", x.sum(0, 3), 53);
+        begin("12 find: 30 ROUNDS do not do for 32 LINES");
+        lines(new int[] {20, 0, 0}, new int[] {20, 1, 1}, new int[] {0, 0, 1}, new int[] {26, 0, 2});
+        for (int i = 4; i < 32; i++) x.op(0, 27, 0, 0);
+        due("find(0)", x.find(0), 30);
+        due("sum(0, 0)", x.sum(0, 0), 32);
+        foundEnds(31, 7, MIN, MAX);
         begin("12 find: widening downward to a bound");
         lines(new int[] {20, 0, -1}, new int[] {20, 1, 1}, new int[] {20, 2, -6}, new int[] {24, 2, 0}, new int[] {27, 0, 0},
             new int[] {1, 0, 1}, new int[] {26, 0, 3});
@@ -909,6 +1026,26 @@ public final class PromisesTest {
         due("ran(0)", x.ran(0), 1);
         long[] want = {-w, ~w, (byte) w, (short) w, (int) w, 0xF0, 0xDEF0, 0x9ABCDEF0L};
         for (int p = 0; p < 8; p++) due("now(" + p + ")", x.now(p), want[p]);
+        begin("16 walk: TABLES and their ends");
+        lines(new int[] {22, 0, 3});
+        x.table(3, -5);
+        x.table(3, 8);
+        x.find(0);
+        for (long[] t : new long[][] {{-1, 0, -1}, {0, 1, -5}, {1, 1, 8}, {2, 0, 2}, {1L << 32, 0, 1L << 32}, {MIN, 0, MIN}}) {
+            x.put(0, t[0]);
+            due("walk(0, 1)", x.walk(0, 1), t[1]);
+            due("ran(0)", x.ran(0), t[1] == 1 ? 1 : 2);
+            due("now(0)", x.now(0), t[2]);
+        }
+        begin("16 walk: SAME, LESS, BIT at their edges");
+        lines(new int[] {24, 0, 1}, new int[] {20, 2, 1}, new int[] {25, 0, 1}, new int[] {20, 3, 1}, new int[] {21, 4, 0}, new int[] {27, 0, 0});
+        x.find(0);
+        x.put(0, 5);
+        x.put(1, 5);
+        due("walk(0, 9)", x.walk(0, 9), 6);
+        due("5 is not below 5", x.now(2), 1);
+        due("bit 1 of 5", x.now(3), 1);
+        due("a copy", x.now(4), 5);
         begin("16 walk: passing over");
         lines(new int[] {23, 0, 1}, new int[] {20, 2, 1}, new int[] {24, 0, 1}, new int[] {20, 3, 1}, new int[] {25, 0, 63},
             new int[] {20, 4, 1}, new int[] {23, 0, 0}, new int[] {20, 5, 1});

@@ -3,6 +3,7 @@
  * has to be the same, and no number that runs may be other than was found.
  */
 public final class RandomRunsTest {
+    private static final long MAX = Long.MAX_VALUE;
     private static int wrong = 0;
     private static long calls = 0;
     private static long state;
@@ -53,8 +54,19 @@ public final class RandomRunsTest {
         for (int what = 0; what < 7; what++) due(run, "told(" + f + ", " + what + ")", x.told(f, what), y.told(f, what));
     }
 
+    /** Low bits and a rest that agree only far off, so that sharpening six times is not enough. */
+    private static void hardFact(int run, BitCongruences x, NaiveModel y, int f) {
+        long low = number(), high = below(3) == 0 ? MAX : low + below(100000), known = (1L << 1 + below(7)) - 1, values = raw();
+        int m = 2 * below(60) + 9;
+        due(run, "fact(" + f + ", " + low + ", " + high + ")", x.fact(f, low, high), y.fact(f, low, high));
+        due(run, "bits(" + f + ", " + known + ", " + values + ")", x.bits(f, known, values), y.bits(f, known, values));
+        due(run, "rest(" + f + ", " + m + ", " + values + ")", x.rest(f, m, values), y.rest(f, m, values));
+        tell(run, x, y, f);
+    }
+
     private static void factCall(int run, BitCongruences x, NaiveModel y, int kind) {
         int f = about(16);
+        if (below(8) == 0) hardFact(run, x, y, below(16));
         if (kind == 0) {
             long low = number(), high = below(2) == 0 ? number() : low + below(300);
             due(run, "fact(" + f + ", " + low + ", " + high + ")", x.fact(f, low, high), y.fact(f, low, high));
@@ -154,8 +166,9 @@ public final class RandomRunsTest {
         }
         for (int p = 0; p < 8; p++) {
             if (below(3) == 0) {
-                for (int i = 1 + below(3); i > 0; i--) factCall(run, x, y, below(3));
                 int f = below(16);
+                if (below(2) == 0) hardFact(run, x, y, f);
+                else for (int i = 1 + below(3); i > 0; i--) factCall(run, x, y, below(3));
                 due(run, "given(0, " + p + ", " + f + ")", x.given(0, p, f), y.given(0, p, f));
             } else {
                 add(run, x, y, 20, p, constant());
@@ -165,6 +178,7 @@ public final class RandomRunsTest {
         for (int i = 2 + below(14); i > 0; i--) {
             int kind = below(10);
             if (kind < 5) add(run, x, y, new int[] {0, 0, 0, 1, 1, 2, 3, 4, 5, 6, 7, 8, 9, 10, 10}[below(15)], below(8), below(8));
+            else if (kind == 5 && below(2) == 0) add(run, x, y, 20, below(8), constant());
             else if (kind == 5) add(run, x, y, new int[] {12, 13, 14, 15, 16, 17, 18, 19, 21, 21, 22}[below(11)], below(8), 0);
             else if (kind == 6) add(run, x, y, 25, below(8), below(6));
             else if (kind == 7) add(run, x, y, 26, 0, top + below(12));
