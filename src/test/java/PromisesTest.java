@@ -444,6 +444,9 @@ public final class PromisesTest {
         x.fact(2, 0, 99);
         act(10, 2, 3, 1);
         fact(9, 0, 7, ~7L, 0, 1, 0);
+        x.bits(2, 3, 0);
+        act(10, 2, 3, 1);
+        fact(9, 0, 4, ~4L, 0, 1, 0);
         x.fact(2, -1, 99);
         x.bits(2, 1, 1);
         act(10, 2, 3, 1);
