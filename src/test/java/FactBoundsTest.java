@@ -73,6 +73,20 @@ public final class FactBoundsTest extends Bounds {
             between(0, a[0], a[1]);
             isFact(0, a[0], a[1], a[2], a[3], 1, 0);
         }
+        says("It is NONE as soon as there is no such number");
+        // not below 7 there is none with 0??0, not above 8 none with 1??1
+        between(0, 7, 9);
+        known(0, 9, 0, 0);
+        isNone(0);
+        between(0, 7, 8);
+        known(0, 9, 9, 0);
+        isNone(0);
+        between(0, -9, -7);
+        known(0, 9, 0, 0);
+        isNone(0);
+        between(0, -9, -8);
+        known(0, 9, 9, 0);
+        isNone(0);
         says("It is NONE as soon as there is no such number (by bits)");
         lines(l(24, 0, 1), l(27, 0, 0), l(27, 0, 0));
         long half = 1L << 62;
@@ -279,6 +293,13 @@ public final class FactBoundsTest extends Bounds {
             due("M of one that is " + r + " by 3 and of the least long", x.told(2, 4), r == 1 ? 3 : 1);
             act(20, 0, 1, 2, 1);
             due("M of the least long and of one that is " + r + " by 3", x.told(2, 4), r == 1 ? 3 : 1);
+        }
+        // that the CONSTANT is LOW does not make them alike: bits 0 and 3 of 121 are 1, those of the other 0
+        unfinished(3);
+        number(0, 121);
+        for (int i = 0; i < 2; i++) {
+            act(20, i == 0 ? 3 : 0, i == 0 ? 0 : 3, 2, 1);
+            due("KNOWN of the lowest four", x.told(2, 2) & 15, 6);
         }
         says("two CONSTANTS alike: that");
         for (long v : new long[] {0, -7, MIN, MAX}) {

@@ -230,6 +230,25 @@ public final class MethodBoundsTest extends Bounds {
         ahead(2, 0, 121, 151);
         ahead(2, 2, 5, 7);
         sum(3, 0);
+        says("or the FACT by this, comes to be NONE");
+        fourJoins(3520, 3147);
+        // three JOINS make it so; by the fourth, 2454 .. 2769, LOW is the least with these bits, 2048: then none is left
+        ahead(13, 0, 2517, 2769);
+        says("or the FACT by this, comes to be NONE (and one more of 64: it does not)");
+        fourJoins(3584, 3210);
+        ahead(13, 0, 2391, 2454);
+        sum(3, 1);
+        says("(a JOIN that is NONE does not count as lesser, greater)");
+        // ahead of 3 the same again three times, by a count in PLACE 1; then LOW gets lesser for the first time
+        lines(l(20, 1, 0), l(20, 2, 3), l(20, 3, 1), l(24, 1, 2), l(26, 0, 7), l(0, 1, 3), l(26, 0, 3), l(20, 0, 16), l(26, 0, 3));
+        between(0, 17, 255);
+        known(0, 15, 0, 1);
+        by(0, 15, 1, 1);
+        x.given(0, 0, 0);
+        x.find(0);
+        ahead(3, 1, 0, 3);
+        ahead(3, 0, 16, 16);
+        sum(3, 0);
         says("Changed is what has another LOW, HIGH, KNOWN bits, M or REST (not what stays what it was)");
         lines(l(26, 0, 0));
         between(0, 17, 255);
@@ -238,12 +257,49 @@ public final class MethodBoundsTest extends Bounds {
         x.given(0, 0, 0);
         find(1);
         ahead(0, 0, 121, 151);
+        says("Changed is what has another LOW, HIGH, KNOWN bits, M or REST (KNOWN bits alone)");
+        // PLACE 2 ahead of LINE 1: 0, 2 or 4; then also 1 .. 3, and LINE 1 has to be worked again
+        lines(l(21, 2, 0), l(21, 3, 2), l(25, 7, 0), END, l(21, 2, 1), l(26, 0, 1));
+        between(0, 0, 4);
+        known(0, 1, 0, 1);
+        x.given(0, 0, 0);
+        give(1, 1, 3);
+        find(2);
+        ahead(3, 3, 0, 4);
+        due("KNOWN of PLACE 3", x.told(14, 2), ~7L);
+        says("Changed is what has another LOW, HIGH, KNOWN bits, M or REST (M alone)");
+        lines(l(21, 2, 0), l(21, 3, 2), l(25, 7, 0), END, l(21, 2, 1), l(26, 0, 1));
+        between(0, 0, 12);
+        by(0, 3, 0, 1);
+        x.given(0, 0, 0);
+        give(1, 1, 11);
+        find(2);
+        ahead(3, 3, 0, 12);
+        due("M of PLACE 3", x.told(14, 4), 1);
         says("Changed is what has another LOW, HIGH (by SHARPENING alone)");
         lines(l(26, 0, 0));
         unfinished(0);
         x.given(0, 0, 0);
         find(3);
         ahead(0, 0, 256, 9856);
+    }
+
+    /**
+     * Ahead of LINE 13 five FACTS come to be JOINED, of multiples of 64 that are 60 by 63, which there are none of in
+     * 1 .. 3839; six times of SHARPENING make each end come closer by some 6 * 63, and each next LOW is 63 less.
+     */
+    private static void fourJoins(long end, long high) {
+        lines(l(25, 7, 0), l(26, 0, 13), l(21, 0, 2), l(25, 7, 1), l(26, 0, 13), l(21, 0, 3), l(25, 7, 2), l(26, 0, 13), l(21, 0, 4),
+            l(25, 7, 3), l(26, 0, 13), l(21, 0, 5), l(26, 0, 13), END);
+        long[] starts = {2432, 1857, 1793, 1729, 1665}, lows = {2769, 2265, 2202, 2139, 2076};
+        for (int i = 0; i < 5; i++) {
+            between(i, starts[i], end);
+            known(i, 63, 0, 1);
+            by(i, 63, 60, 1);
+            isBetween(i, lows[i], high, 63, 60);
+            due("given", x.given(0, i == 0 ? 0 : i + 1, i), 1);
+        }
+        find(1);
     }
 
     /** Counts by 1 in PLACE 0, from 'from' on, upward or downward until the bound. */
