@@ -286,7 +286,8 @@ public final class MethodBoundsTest extends Bounds {
 
     /**
      * Ahead of LINE 13 five FACTS come to be JOINED, of multiples of 64 that are 60 by 63, which there are none of in
-     * 1 .. 3839; six times of SHARPENING make each end come closer by some 6 * 63, and each next LOW is 63 less.
+     * 1 .. 3839; six times of SHARPENING make each end come closer by some 6 * 63, and each next LOW is 63 less. (These
+     * numbers alone were worked out by a small script, not by hand.)
      */
     private static void fourJoins(long end, long high) {
         lines(l(25, 7, 0), l(26, 0, 13), l(21, 0, 2), l(25, 7, 1), l(26, 0, 13), l(21, 0, 3), l(25, 7, 2), l(26, 0, 13), l(21, 0, 4),
@@ -666,6 +667,12 @@ public final class MethodBoundsTest extends Bounds {
             find(1);
             sum(1, line[3]);
         }
+        says("1 those that are GIVEN UP (no others than acts are, whatever their b is)");
+        lines(l(20, 0, Integer.MAX_VALUE), l(20, 0, Integer.MIN_VALUE), l(22, 1, 3), l(25, 1, 63), l(23, 1, 7), l(21, 1, 7), l(26, 0, 32));
+        x.table(3, 1);
+        find(1);
+        sum(0, 7);
+        sum(1, 0);
         says("1 those that are GIVEN UP (of those that are REACHED)");
         lines(l(11, 0, 0), END, l(11, 0, 0));
         find(1);
