@@ -39,7 +39,7 @@ public final class BitCongruences {
         }
     }
 
-    // ---- facts
+    // ---- facts 0 .. 15
 
     public int fact(int f, long low, long high) {
         Fact fact = factAt(f);
